@@ -318,10 +318,11 @@ public final class QueueBench {
 
         void addCode(char sign, int operand) {
             int last = stepCount - 1;
-            int at = codeEnds[last];
-            code[at] = sign;
-            operands[at] = operand;
-            codeEnds[last] = at + 1;
+            if (last >= 0 && codeEnds[last] < TEXT_LIMIT) {
+                code[codeEnds[last]] = sign;
+                operands[codeEnds[last]] = operand;
+                codeEnds[last]++;
+            }
         }
 
         int codeStart(int step) {
@@ -360,10 +361,13 @@ public final class QueueBench {
         private static final int OF_TERM = 3;
         private static final int OF_PREFIX = 4;
 
+        /** Each sign that waits for its last operand is a factor or stands behind one. */
+        private static final int MOST_WAITING = 2 * FACTOR_LIMIT;
+
         private final Words words;
         private final Program program;
-        /** Signs that wait for their last operand: each is a factor or stands behind one. */
-        private final char[] waiting = new char[2 * FACTOR_LIMIT];
+        private final char[] waiting = new char[MOST_WAITING];
+        private final int[] ranks = new int[MOST_WAITING];
         private int waitingCount;
         private int parentheses;
         private int factors;
@@ -409,9 +413,9 @@ public final class QueueBench {
             factors++;
             switch (sign) {
                 case '-':
-                    return holds(NEGATE);
+                    return holds(NEGATE, OF_PREFIX);
                 case '@':
-                    return holds('@');
+                    return holds('@', OF_PREFIX);
                 case '(':
                     return opensParenthesis();
                 case '#':
@@ -428,7 +432,7 @@ public final class QueueBench {
                 return false;
             }
             parentheses++;
-            return holds('(');
+            return holds('(', OF_PARENTHESIS);
         }
 
         private boolean writesOperand(char sign, int operand) {
@@ -460,7 +464,7 @@ public final class QueueBench {
         private boolean takesSign(char sign, int rank) {
             writeDownTo(rank);
             operandIsDue = true;
-            return holds(sign);
+            return holds(sign, rank);
         }
 
         private boolean closesParenthesis() {
@@ -473,43 +477,24 @@ public final class QueueBench {
             return true;
         }
 
-        private boolean holds(char sign) {
-            if (waitingCount == waiting.length) {
+        private boolean holds(char sign, int rank) {
+            if (waitingCount == MOST_WAITING) {
                 return false;
             }
             waiting[waitingCount] = sign;
+            ranks[waitingCount] = rank;
             waitingCount++;
             return true;
         }
 
         private boolean comparisonWaits() {
-            return waitingCount > 0 && rank(waiting[waitingCount - 1]) == OF_COMPARISON;
+            return waitingCount > 0 && ranks[waitingCount - 1] == OF_COMPARISON;
         }
 
         private void writeDownTo(int lowestRank) {
-            while (waitingCount > 0 && rank(waiting[waitingCount - 1]) >= lowestRank) {
+            while (waitingCount > 0 && ranks[waitingCount - 1] >= lowestRank) {
                 waitingCount--;
                 program.addCode(waiting[waitingCount], 0);
-            }
-        }
-
-        private static int rank(char sign) {
-            switch (sign) {
-                case NEGATE:
-                case '@':
-                    return OF_PREFIX;
-                case '*':
-                case '/':
-                case '%':
-                    return OF_TERM;
-                case '+':
-                case '-':
-                    return OF_SUM;
-                case '<':
-                case '=':
-                    return OF_COMPARISON;
-                default:
-                    return OF_PARENTHESIS;
             }
         }
     }
@@ -547,10 +532,8 @@ public final class QueueBench {
         int firstFault() {
             reset();
             words.toFirst();
-            int taken = 0;
-            while (taken < TEXT_LIMIT && !words.atEnd() && takes(words.sign)) {
+            for (int k = 0; k < TEXT_LIMIT && !words.atEnd() && takes(words.sign); k++) {
                 words.toNext();
-                taken++;
             }
             if (!words.atEnd() || !mayEnd()) {
                 return words.place;
@@ -566,11 +549,9 @@ public final class QueueBench {
             }
             depth = 0;
             openers[0] = NONE;
-            elses[0] = false;
             lastSteps[0] = NONE;
             awaited = STATEMENT;
             procedure = MAIN;
-            step = NONE;
         }
 
         private boolean mayEnd() {
@@ -733,6 +714,27 @@ public final class QueueBench {
         }
     }
 
+    /** What waits for its sign: each comes from a factor of one statement. */
+    private static final class Operands {
+        private final int[] values = new int[FACTOR_LIMIT];
+        private int height;
+
+        void push(int value) {
+            if (height < FACTOR_LIMIT) {
+                values[height] = value;
+                height++;
+            }
+        }
+
+        int pop() {
+            if (height == 0) {
+                return 0;
+            }
+            height--;
+            return values[height];
+        }
+    }
+
     /** Runs the program step by step. */
     private static final class Machine {
         private final Program program;
@@ -742,10 +744,8 @@ public final class QueueBench {
         private final int[] cells = new int[CELL_COUNT];
         /** A procedure calls only those that were defined ahead of it, so no more calls are open. */
         private final int[] returns = new int[PROCEDURE_COUNT];
+        private final Operands operands = new Operands();
         private int openCalls;
-        /** Operands that wait for their sign: each comes from a factor. */
-        private final int[] operands = new int[FACTOR_LIMIT];
-        private int height;
         private int next;
         private int trouble;
         private int stepsDone;
@@ -792,7 +792,7 @@ public final class QueueBench {
         private void doStep() {
             workOut(next);
             if (trouble == NO_TROUBLE && program.kinds[next] == '@') {
-                lookAtCell(operands[0]);
+                lookAtCell(operands.values[0]);
             }
             if (trouble == NO_TROUBLE) {
                 inputsRead += inputsReadByStep;
@@ -802,7 +802,7 @@ public final class QueueBench {
         }
 
         private void workOut(int step) {
-            height = 0;
+            operands.height = 0;
             inputsReadByStep = 0;
             int end = program.codeEnds[step];
             for (int k = program.codeStart(step); k < end && trouble == NO_TROUBLE; k++) {
@@ -813,10 +813,10 @@ public final class QueueBench {
         private void workOutSign(char sign, int operand) {
             switch (sign) {
                 case NUMBER:
-                    push(operand);
+                    operands.push(operand);
                     break;
                 case NAME:
-                    push(names[operand]);
+                    operands.push(names[operand]);
                     break;
                 case '#':
                     read();
@@ -825,7 +825,7 @@ public final class QueueBench {
                     fetch();
                     break;
                 case NEGATE:
-                    push(-pop());
+                    operands.push(-operands.pop());
                     break;
                 default:
                     join(sign);
@@ -836,7 +836,7 @@ public final class QueueBench {
         private void read() {
             int at = inputsRead + inputsReadByStep;
             if (at < input.size) {
-                push(input.values[at]);
+                operands.push(input.values[at]);
                 inputsReadByStep++;
             } else {
                 trouble = NO_INPUT;
@@ -844,10 +844,10 @@ public final class QueueBench {
         }
 
         private void fetch() {
-            int number = pop();
+            int number = operands.pop();
             lookAtCell(number);
             if (trouble == NO_TROUBLE) {
-                push(cells[number]);
+                operands.push(cells[number]);
             }
         }
 
@@ -858,12 +858,12 @@ public final class QueueBench {
         }
 
         private void join(char sign) {
-            int right = pop();
-            int left = pop();
+            int right = operands.pop();
+            int left = operands.pop();
             if (right == 0 && (sign == '/' || sign == '%')) {
                 trouble = DIVIDED_BY_ZERO;
             } else {
-                push(joined(sign, left, right));
+                operands.push(joined(sign, left, right));
             }
         }
 
@@ -886,32 +886,21 @@ public final class QueueBench {
             }
         }
 
-        private void push(int value) {
-            operands[height] = value;
-            height++;
-        }
-
-        private int pop() {
-            height--;
-            return operands[height];
-        }
-
         /** Does what the step tells with its values, and answers the step behind it. */
         private int act(int step) {
             int target = program.targets[step];
             switch (program.kinds[step]) {
                 case '=':
-                    names[target] = operands[0];
+                    names[target] = operands.values[0];
                     return program.nexts[step];
                 case '@':
-                    cells[operands[0]] = operands[1];
+                    cells[operands.values[0]] = operands.values[1];
                     return program.nexts[step];
                 case '!':
-                    outputs.append(operands[0]);
+                    outputs.append(operands.values[0]);
                     return program.nexts[step];
                 case CALL:
-                    returns[openCalls] = program.nexts[step];
-                    openCalls++;
+                    openCall(program.nexts[step]);
                     return program.entries[target];
                 case '?':
                     return choose(step);
@@ -920,13 +909,20 @@ public final class QueueBench {
             }
         }
 
+        private void openCall(int behind) {
+            if (openCalls < PROCEDURE_COUNT) {
+                returns[openCalls] = behind;
+                openCalls++;
+            }
+        }
+
         private int choose(int step) {
-            int block = operands[0] != 0 ? program.firsts[step] : program.seconds[step];
+            int block = operands.values[0] != 0 ? program.firsts[step] : program.seconds[step];
             return block != NONE ? block : program.nexts[step];
         }
 
         private int loop(int step) {
-            if (operands[0] == 0) {
+            if (operands.values[0] == 0) {
                 return program.nexts[step];
             }
             return program.firsts[step] != NONE ? program.firsts[step] : step;
@@ -943,19 +939,18 @@ public final class QueueBench {
 
     /** The different terms of one step, each kept as its sign and the terms that the sign is of. */
     private static final class TermTable {
+        /** Each term is a factor or joins two others. */
         private static final int MOST_TERMS = 2 * FACTOR_LIMIT;
 
         private final char[] signs = new char[MOST_TERMS];
         private final int[] lefts = new int[MOST_TERMS];
         private final int[] rights = new int[MOST_TERMS];
+        private final Operands operands = new Operands();
         private int size;
-        /** Terms that wait for their sign: each comes from a factor. */
-        private final int[] operands = new int[FACTOR_LIMIT];
-        private int height;
 
         int differentTerms(Program program, int step) {
             size = 0;
-            height = 0;
+            operands.height = 0;
             int end = program.codeEnds[step];
             for (int k = program.codeStart(step); k < end; k++) {
                 addSign(program.code[k], program.operands[k]);
@@ -965,14 +960,14 @@ public final class QueueBench {
 
         private void addSign(char sign, int operand) {
             if (sign == NUMBER || sign == NAME) {
-                push(termOf(sign, operand, NONE));
+                operands.push(termOf(sign, operand, NONE));
             } else if (sign == '#') {
-                push(newTerm(sign, NONE, NONE));
+                operands.push(newTerm(sign, NONE, NONE));
             } else if (sign == NEGATE || sign == '@') {
-                push(termOf(sign, pop(), NONE));
+                operands.push(termOf(sign, operands.pop(), NONE));
             } else {
-                int right = pop();
-                push(termOf(sign, pop(), right));
+                int right = operands.pop();
+                operands.push(termOf(sign, operands.pop(), right));
             }
         }
 
@@ -987,21 +982,13 @@ public final class QueueBench {
 
         private int newTerm(char sign, int left, int right) {
             int term = size;
-            signs[term] = sign;
-            lefts[term] = left;
-            rights[term] = right;
-            size++;
+            if (term < MOST_TERMS) {
+                signs[term] = sign;
+                lefts[term] = left;
+                rights[term] = right;
+                size++;
+            }
             return term;
-        }
-
-        private void push(int term) {
-            operands[height] = term;
-            height++;
-        }
-
-        private int pop() {
-            height--;
-            return operands[height];
         }
     }
 }

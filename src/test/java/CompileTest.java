@@ -31,6 +31,9 @@ final class CompileTest {
         good("A \n { } A\n;");
         fault("a\t=1;", 1);
         fault("\r", 0);
+        fault("\u0001", 0);
+        fault("a=1;\u0001", 4);
+        fault("a=1\u0001;", 3);
         fault("a=1 2;", 4);
         fault("a=1\n2;", 4);
         fault("a=b c;", 4);
@@ -262,6 +265,11 @@ final class CompileTest {
         CHECK.due("compile() with A", Texts.compile(bench, "A{!1;}A;?1{!2;}:{!3;}"), 0);
         CHECK.due("compile() with A, not defined now", Texts.compile(bench, "A;"), 1);
         CHECK.due("compile() in an open block", Texts.compile(bench, "A{?a{*b{(("), 9);
+        CHECK.due("compile() in an open expression", Texts.compile(bench, "@((-"), 5);
+        CHECK.due("compile() of another expression", Texts.compile(bench, "!-(7);"), 0);
+        bench.start();
+        bench.run(1);
+        CHECK.due("output(0) of another expression", bench.output(0), -7);
         CHECK.due("compile() with A again", Texts.compile(bench, "A{}?1{}A;"), 0);
         bench.start();
         CHECK.due("run(9) with empty blocks", bench.run(9), 2);

@@ -56,6 +56,10 @@ final class FeedTest {
         bench.feed(0x20202020, 0x20202020, 0x20202020, 0x20202020, 0x00202020);
         check.due("count(0)", bench.count(0), 2999);
         check.refuses("two signs more", IllegalStateException.class, () -> bench.feed(0, 0, 0x20000020, 0, 0));
+        check.refuses("two signs in a", IllegalStateException.class, () -> bench.feed(0x2020, 0, 0, 0, 0));
+        check.refuses("two signs in b", IllegalStateException.class, () -> bench.feed(0, 0x2020, 0, 0, 0));
+        check.refuses("two signs in d", IllegalStateException.class, () -> bench.feed(0, 0, 0, 0x2020, 0));
+        check.refuses("two signs in e", IllegalStateException.class, () -> bench.feed(0, 0, 0, 0, 0x2020));
         check.refuses("twenty signs more", IllegalStateException.class,
                 () -> bench.feed(0x20202020, 0x20202020, 0x20202020, 0x20202020, 0x20202020));
         check.due("count(0) behind them", bench.count(0), 2999);

@@ -79,6 +79,9 @@ final class TermsTest {
             }
         }
         CHECK.due("count(1)", bench.count(1), due.length);
+        for (int k = 0; k < 200; k++) {
+            CHECK.due("terms(25), asked again", bench.terms(25), 2);
+        }
     }
 
     private static boolean hasStep(int[][] due, int place) {
