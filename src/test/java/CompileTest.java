@@ -199,6 +199,8 @@ final class CompileTest {
 
     private static void statementsOfOneProgram() {
         good("!1;".repeat(300));
+        good("a=1+1+1+1;".repeat(300));
+        fault("a=1+1+1+1;".repeat(299) + "a=1+1+1+1+", 3000);
         fault("!1;".repeat(301), 900);
         good("!1;".repeat(300) + "A{}B{}");
         fault("!1;".repeat(300) + "A{!", 902);

@@ -80,7 +80,7 @@ final class TermsTest {
         }
         CHECK.due("count(1)", bench.count(1), due.length);
         for (int k = 0; k < 200; k++) {
-            CHECK.due("terms(25), asked again", bench.terms(25), 2);
+            CHECK.due("terms(14), asked again", bench.terms(14), 4);
         }
     }
 
