@@ -10,6 +10,7 @@ final class TermsTest {
         cellsAndInput();
         everyKindOfStep();
         mostTermsOfOneStep();
+        askedAgainAndAgain();
         refused();
         CHECK.end("TermsTest");
     }
@@ -79,9 +80,6 @@ final class TermsTest {
             }
         }
         CHECK.due("count(1)", bench.count(1), due.length);
-        for (int k = 0; k < 200; k++) {
-            CHECK.due("terms(14), asked again", bench.terms(14), 4);
-        }
     }
 
     private static boolean hasStep(int[][] due, int place) {
@@ -102,6 +100,13 @@ final class TermsTest {
         first("!" + "-".repeat(59) + "a;", 60);
         first("!" + "@".repeat(59) + "#;", 60);
         first("@" + "(" + "#*".repeat(57) + "#)=#;", 116);
+    }
+
+    private static void askedAgainAndAgain() {
+        QueueBench bench = Texts.compiled("!(a+b)*(a+b);");
+        for (int k = 0; k < 200; k++) {
+            CHECK.due("terms(0), asked again", bench.terms(0), 4);
+        }
     }
 
     private static void refused() {
