@@ -30,12 +30,15 @@ final class FaceTest {
         TreeSet<String> seen = membersSeen();
         TreeSet<String> due = new TreeSet<>(java.util.Arrays.asList(FACE));
         Check check = new Check();
+        check.sentence("The public face");
         for (String member : due) {
             check.due(member, seen.contains(member) ? 1 : 0, 1);
         }
+        check.sentence("(LANGUAGE.md, rule 1) and no other public, protected or package-visible member");
         for (String member : seen) {
             check.due("not in the face: " + member, due.contains(member) ? 0 : 1, 0);
         }
+        check.sentence("public static final int NONE = -1");
         check.due("NONE", QueueBench.NONE, -1);
         check.end("FaceTest");
     }

@@ -3,7 +3,10 @@ import java.util.function.IntSupplier;
 
 /** The class answers as the model does, over many texts and calls that are always the same. */
 final class ModelTest {
-    private static final int RUNS = 1200;
+    private static final int RUNS = 5000;
+    /** What an object answers behind its 512th call is free, so the run is over then. */
+    private static final int MOST_CALLS = 512;
+    private static final int PLACES_ASKED = 30;
     private static final String SIGNS = "abcAB019=@!?*{}:;()+-/%<# \n";
 
     private final Random random;
@@ -42,12 +45,11 @@ final class ModelTest {
 
     private boolean agrees(int[] seen) {
         boolean good = true;
-        for (int k = 0; k < 4 && good; k++) {
+        for (int k = 0; k < 4 && good && calls < MOST_CALLS; k++) {
             String text = nextText();
             good = feeds(text) && same("compile()", bench::compile, model::compile) && looksAtTerms(text);
             if (good && model.count(1) > 0) {
-                good = runs();
-                seen[model.state(0)]++;
+                good = runs(seen);
             } else {
                 seen[5]++;
             }
@@ -95,7 +97,8 @@ final class ModelTest {
                 return false;
             }
         }
-        for (int place = -1; place <= text.length(); place++) {
+        int from = random.nextInt(text.length() + 2) - 1;
+        for (int place = from; place <= text.length() && place < from + PLACES_ASKED; place++) {
             int each = place;
             if (!same("terms " + each, () -> bench.terms(each), () -> model.terms(each))) {
                 return false;
@@ -104,7 +107,7 @@ final class ModelTest {
         return true;
     }
 
-    private boolean runs() {
+    private boolean runs(int[] seen) {
         if (!same("start()", () -> began(bench::start), () -> began(model::start))) {
             return false;
         }
@@ -116,6 +119,9 @@ final class ModelTest {
                 int value = random.nextInt(5) - 1;
                 good = same("give " + value, () -> bench.give(value), () -> model.give(value));
             }
+        }
+        if (calls < MOST_CALLS) {
+            seen[model.state(0)]++;
         }
         return good;
     }
@@ -143,19 +149,22 @@ final class ModelTest {
             good = same("state " + each, () -> bench.state(each), () -> model.state(each))
                     && same("name " + each, () -> bench.name(each), () -> model.name(each));
         }
-        for (int k = -1; k <= 100 && good; k++) {
-            int each = k;
+        for (int k = 0; k < 5 && good; k++) {
+            int each = k < 3 ? k : random.nextInt(102) - 1;
             good = same("cell " + each, () -> bench.cell(each), () -> model.cell(each));
         }
-        int total = good ? model.state(2) : 0;
-        for (int k = total - 202; k <= total && good; k++) {
-            int each = k;
-            good = same("output " + each, () -> bench.output(each), () -> model.output(each));
+        int total = good && calls < MOST_CALLS ? model.state(2) : 0;
+        for (int back : new int[] {0, 1, 2, 1 + random.nextInt(200), 200, 201}) {
+            int each = total - back;
+            good = good && same("output " + each, () -> bench.output(each), () -> model.output(each));
         }
         return good;
     }
 
     private boolean same(String call, IntSupplier got, IntSupplier due) {
+        if (calls == MOST_CALLS) {
+            return true;
+        }
         calls++;
         String gotten = answer(got);
         String wanted = answer(due);

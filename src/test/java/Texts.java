@@ -12,6 +12,11 @@ final class Texts {
         return signs;
     }
 
+    /** Feeds spaces until the text has so many signs. */
+    static void fill(QueueBench bench, int signs) {
+        feed(bench, " ".repeat(signs - bench.count(0)));
+    }
+
     static int packed(String text, int from) {
         int value = 0;
         for (int k = 0; k < 4 && from + k < text.length(); k++) {
@@ -41,6 +46,12 @@ final class Texts {
     static QueueBench started(String text, int... inputs) {
         QueueBench bench = compiled(text, inputs);
         bench.start();
+        return bench;
+    }
+
+    static QueueBench run(String text, int... inputs) {
+        QueueBench bench = started(text, inputs);
+        bench.run(1000);
         return bench;
     }
 }
