@@ -48,6 +48,24 @@ final class Check {
         sameStory("behind the refused " + what, Story.of(bench), Story.of(twin));
     }
 
+    /** The call answers, and a twin to which it was not made answers the same ever after. */
+    void keeps(String what, Supplier<QueueBench> maker, Consumer<QueueBench> call) {
+        QueueBench bench = maker.get();
+        QueueBench twin = maker.get();
+        call.accept(bench);
+        sameStory("behind " + what, Story.of(bench), Story.of(twin));
+    }
+
+    /** The call changes what can be seen of the object in this one answer alone. */
+    void keepsAllBut(String count, String what, QueueBench bench, Consumer<QueueBench> call) {
+        List<String> before = Story.atOnce(bench);
+        call.accept(bench);
+        List<String> behind = Story.atOnce(bench);
+        before.removeIf(row -> row.startsWith(count));
+        behind.removeIf(row -> row.startsWith(count));
+        sameStory("behind " + what, behind, before);
+    }
+
     private void sameStory(String what, List<String> got, List<String> want) {
         for (int k = 0; k < want.size(); k++) {
             look();

@@ -209,8 +209,8 @@ final class GrammarTest {
     private static void textsThatEndTooSoon() {
         CHECK.sentence("(the text's length at its end)");
         for (String start : new String[] {"a", "a=", "a=1", "a=1+", "a=-", "a=(1", "a=1<", "@", "@1", "@(", "@1=",
-            "@1=2", "!", "!1", "?", "?1", "?1{", "?1{}:", "?1{}:{", "*", "*1", "*1{", "*1{!1;", "A{", "A{a=1;", "A{?1{}",
-            "A{}A"}) {
+            "@1=2", "!", "!1", "?", "?1", "?1{", "?1{}:", "?1{}:{", "*", "*1", "*1{", "*1{!1;", "A{", "A{a=1;",
+            "A{?1{}", "A{}A"}) {
             TEXTS.fault(start, start.length());
             TEXTS.fault(start + "  \n", start.length() + 3);
             TEXTS.fault("\n" + start, start.length() + 1);

@@ -95,6 +95,10 @@ final class StateTest {
         CHECK.due("state(0), nothing left", bench.state(0), 4);
         bench.give(5);
         CHECK.due("state(3), given is not read", bench.state(3), 4);
+        QueueBench ended = Texts.run("!#+#;", 1, 2, 3);
+        CHECK.due("state(3) at the end", ended.state(3), 2);
+        ended.give(4);
+        CHECK.due("state(3) at the end, with more input", ended.state(3), 2);
     }
 
     private static void placeOfTheNextStep() {

@@ -22,6 +22,13 @@ final class Story {
         return story.rows;
     }
 
+    /** What can be seen without changing anything. */
+    static List<String> atOnce(QueueBench bench) {
+        Story story = new Story(bench);
+        story.lookAtAll();
+        return story.rows;
+    }
+
     private void goOn() {
         tellRun(1);
         tellRun(1000);
